@@ -365,6 +365,14 @@ public final class CoursesTest {
         due("shown: 2 alone", y.sure(0, 2, 1), 2);
         CHECKS.grant(y, "p0 life;>d0:p1 life", 1);
         due("shown: 4, not 5", y.sure(1, 1, 1), 4);
+        LifeGrants z = new LifeGrants();
+        z.person(50, -1);
+        z.person(20, 0);
+        z.maybe(0, 0, 3); // 8
+        z.maybe(2, 8, 9);
+        z.maybe(2, 1, 9);
+        CHECKS.grant(z, "f0 life if w", 0);
+        due("shown: 4, though 3 is less as bits", z.sure(0, 0, 1), 4);
     }
 
     private static void holders() {

@@ -280,6 +280,14 @@ public final class LateTest {
         due("the other NUMBER: no help, and none below 0", x.mend(0, 1, 0), -100);
         CHECKS.grant(x, "p0 98y;f0 life if a5", 1);
         due("none above 99", x.mend(1, 0, 0), -100);
+        LifeGrants y = new LifeGrants();
+        y.person(90, -1);
+        y.maybe(1, 0, 20);
+        y.maybe(0, 0, 1); // 9
+        CHECKS.grant(y, "p0 1y if a98;f0 31y;f0 life", 0);
+        due("with a98 the last BEGINS in YEAR 40, with a99 nevermore", y.mend(0, 1, 0), 1);
+        CHECKS.grant(y, "p0 1y if a99;f0 30y;f0 life", 1);
+        due("a100 would mend it, but is no NUMBER", y.mend(1, 1, 0), -100);
         CHECKS.grant(x, "f0 0y;f0 1y;f0 1y;f0 life", 2);
         due("a 0 goes up alone, which is no help", x.mend(2, 0, 0), -100);
         due("a 1 goes to 0", x.mend(2, 1, 0), -1);
