@@ -505,27 +505,16 @@ public final class LifeGrants {
         }
     }
 
-    /** The CLAUSES, as bits, that BEGIN in the COURSE more than n YEARS behind the last of LIVES. */
-    private int lateIn(int set, Grant words, int n) {
-        Course course = courseOf(set);
-        int bound = course.lastDeath + n;
-        if (bound >= LAST_YEAR) {
-            return 0;
-        }
-        run.go(words, course);
-        int late = 0;
-        for (int clause = 0; clause < CLAUSES; clause++) {
-            if (at(run.began, clause) > bound) {
-                late |= 1 << clause;
-            }
-        }
-        return late;
-    }
-
+    /** The CLAUSES, as bits, that are LATE by n; a COURSE without time left behind that is not gone. */
     private int lateClauses(Grant words, int n) {
         int late = 0;
         for (int set = 0; set < coursesThereAre(); set++) {
-            late |= lateIn(set, words, n);
+            Course course = courseOf(set);
+            int bound = course.lastDeath + n;
+            if (bound < LAST_YEAR) {
+                run.go(words, course);
+                late |= run.begunBehind(bound);
+            }
         }
         return late;
     }
@@ -533,8 +522,11 @@ public final class LifeGrants {
     private long coursesOfLate(Grant words, int clause, int n) {
         long late = 0;
         for (int set = 0; set < coursesThereAre(); set++) {
-            if ((lateIn(set, words, n) >> clause & 1) == 1) {
-                late |= 1L << set;
+            Course course = courseOf(set);
+            int bound = course.lastDeath + n;
+            if (bound < LAST_YEAR) {
+                run.go(words, course);
+                late |= at(run.began, clause) > bound ? 1L << set : 0;
             }
         }
         return late;
@@ -1017,6 +1009,16 @@ public final class LifeGrants {
                 holders[year] = having;
                 clauses[year] = having == 0 ? NOT : clause;
             }
+        }
+
+        private int begunBehind(int bound) {
+            int those = 0;
+            for (int one = 0; one < began.length; one++) {
+                if (began[one] > bound) {
+                    those |= 1 << one;
+                }
+            }
+            return those;
         }
 
         private void turnTo(int next) {
