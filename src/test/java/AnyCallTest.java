@@ -5,6 +5,8 @@ import java.util.Random;
  * refused changes nothing, as the answers behind it show.
  */
 public final class AnyCallTest {
+    // A call, and behind it all of count().
+    private static final int RUNS = 400, COUNTED = 7;
     private static final Checks CHECKS = new Checks("AnyCallTest");
     private static final int[] EDGES = {
         Integer.MIN_VALUE, Integer.MIN_VALUE + 1, -101, -11, -6, -5, -4, -3, -2, -1, 0, 1, 2, 3, 4, 5, 6, 7, 8, 9,
@@ -15,16 +17,17 @@ public final class AnyCallTest {
     private final Random numbers;
     private final LifeGrants x = new LifeGrants();
     private final Model model = new Model();
+    private int calls;
 
     private AnyCallTest(int seed) {
         numbers = new Random(seed);
     }
 
     public static void main(String[] args) {
-        for (int seed = 0; seed < 60; seed++) {
+        for (int seed = 0; seed < RUNS; seed++) {
             AnyCallTest test = new AnyCallTest(seed);
             test.fill(seed % 3);
-            for (int call = 0; call < 400; call++) {
+            while (test.calls + COUNTED <= Asked.MOST_CALLS) {
                 test.one();
             }
         }
@@ -36,6 +39,7 @@ public final class AnyCallTest {
     }
 
     private void due(int got, int want) {
+        calls++;
         CHECKS.due("a call", got, want);
     }
 
@@ -50,6 +54,7 @@ public final class AnyCallTest {
         for (int i = 0; i < much * 3; i++) {
             String text = "p" + i + " 9y;c0 life;>d1:f1 7y if a9;p2 ever if w;c1 5y if d0;p0 ever";
             Checks.feed(x, text);
+            calls += (text.length() + 7) / 8;
             for (int k = 0; k < text.length(); k++) {
                 model.feed(text.charAt(k), 1);
             }

@@ -3,6 +3,7 @@ import java.nio.charset.StandardCharsets;
 /** Counts the answers that are not due, and says them. */
 final class Checks {
     private final String name;
+    private String sentence = "";
     private int done;
     private int wrong;
 
@@ -10,12 +11,17 @@ final class Checks {
         this.name = name;
     }
 
+    /** The sentence of the document that the next checks are of. */
+    void about(String text) {
+        sentence = " [" + text + "]";
+    }
+
     void due(String call, long got, long want) {
         done++;
         if (got != want) {
             wrong++;
             if (wrong <= 40) {
-                System.out.println(name + ": " + call + " answered " + got + ", due is " + want);
+                System.out.println(name + ": " + call + " answered " + got + ", due is " + want + sentence);
             }
         }
     }
