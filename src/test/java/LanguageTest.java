@@ -33,6 +33,7 @@ public final class LanguageTest {
         classes();
         words(source.replaceAll("(?s)/\\*.*?\\*/", "").replaceAll("//[^\n]*", ""));
         methodsAreShort(source);
+        rowsAreMadeOnce(source);
         System.out.println("LanguageTest: " + wrong + " rules broken");
         if (wrong != 0) {
             System.exit(1);
@@ -127,6 +128,17 @@ public final class LanguageTest {
             int size = source.indexOf(end, method.end()) + end.length();
             int lines = (int) source.substring(method.start(), size).lines().count();
             rule(lines <= LONGEST_METHOD, method.group().trim() + " has " + lines + " lines");
+        }
+    }
+
+    /** README.md: all rows are made by the constructor; no later call makes an object. */
+    private static void rowsAreMadeOnce(String source) {
+        Matcher maker = Pattern.compile("(?m)^.*\\bnew\\b.*$").matcher(source.replaceAll("(?m)//.*$", ""));
+        while (maker.find()) {
+            String line = maker.group().trim();
+            boolean isField = line.matches("private final [\\w\\[\\]]+ \\w+ = new [^;]+;");
+            boolean isOfConstructor = line.matches("(courses\\[set\\] = new Course|given\\[number\\] = new Grant)\\(\\);");
+            rule(isField || isOfConstructor, "an object is made by " + line);
         }
     }
 }
