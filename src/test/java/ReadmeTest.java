@@ -43,6 +43,7 @@ public final class ReadmeTest {
         whatItsCallsAre();
         inWhatOrder();
         refusals();
+        otherNumbers();
         refusalsOfCalls();
         answersAreTold();
         howToRunTests();
@@ -140,6 +141,18 @@ public final class ReadmeTest {
         for (int i = 0; i < rows.size(); i++) {
             same("a refusal", rows.get(i).get(0), "`" + REFUSALS.get(i) + "`");
             same("its number", rows.get(i).get(1), "" + numberOf(REFUSALS.get(i)));
+        }
+    }
+
+    /** The other numbers below 0: each is answered in an example. */
+    private void otherNumbers() {
+        CHECKS.about("what README.md says is to be done so, and gives what README.md says");
+        Set<String> shown = new HashSet<>(found("// (-\\d+)\\b", readme.text()));
+        List<List<String>> rows = readme.table("number");
+        same("so many numbers that are no refusals", rows.size(), 4);
+        for (List<String> row : rows) {
+            String number = row.get(0).split(" ")[0];
+            is("an example that answers " + number, shown.contains(number));
         }
     }
 
